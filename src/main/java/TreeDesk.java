@@ -232,9 +232,10 @@ public final class TreeDesk {
 
     private int compareWorks(int a, int b) {
         for (int i = 0; i < Bits.HALVES; i++) {
-            int order = Long.compare(works[a * Bits.HALVES + i], works[b * Bits.HALVES + i]);
-            if (order != 0) {
-                return order;
+            long left = works[a * Bits.HALVES + i];
+            long right = works[b * Bits.HALVES + i];
+            if (left != right) {
+                return left < right ? -1 : 1;
             }
         }
         return 0;

@@ -30,13 +30,13 @@ public final class PromisesTest {
         return chain(300, 10000, 10001, 10002, 10003, 10004, 10005, 10006, lastTime);
     }
 
-    /** Blocks 8 .. 15 above a first period of hard bits; 9 .. 14 one second apart. */
-    private static void secondPeriod(TreeDesk x, long firstTime, long lastTime) {
-        due("add(7)", x.add(7, firstTime, HARD), 8);
+    /** Blocks 8 .. 15 above a first period; 9 .. 14 one second apart. */
+    private static void secondPeriod(TreeDesk x, long bits, long firstTime, long lastTime) {
+        due("add(7)", x.add(7, firstTime, bits), 8);
         for (int i = 9; i < 15; i++) {
-            due("add of a second period's block " + i, x.add(i - 1, 20000 + i - 8, HARD), i);
+            due("add of a second period's block " + i, x.add(i - 1, 20000 + i - 8, bits), i);
         }
-        due("add(14)", x.add(14, lastTime, HARD), 15);
+        due("add(14)", x.add(14, lastTime, bits), 15);
     }
 
     /** Blocks 1 .. n so far apart that their bits stay the limit's. */
@@ -162,6 +162,11 @@ public final class PromisesTest {
         due("all but the root bad: tip()", x.tip(), 0);
         due("a new start", x.add(0, 1001, EASY), 8);
         due("a new start: tip()", x.tip(), 8);
+        TreeDesk full = chain(3, 1000, 1001, 1002);
+        due("full: spoil(2)", full.spoil(2), 1);
+        due("full: tip()", full.tip(), 1);
+        due("full: spoil(1)", full.spoil(1), 1);
+        due("full: tip()", full.tip(), 0);
     }
 
     private static void must() {
@@ -186,13 +191,13 @@ public final class PromisesTest {
             {19199, 0x207FFE47L}, {19200, 0x207FFFFCL}, {19201, 0x207FFFFCL}, {MOST - 20000, 0x207FFFFCL}};
         for (long[] pair : seconds) {
             TreeDesk x = period(10007);
-            secondPeriod(x, 20000, 20000 + pair[0]);
+            secondPeriod(x, HARD, 20000, 20000 + pair[0]);
             due("must(14) in a second period", x.must(14), HARD);
             due("must: a second period of " + pair[0], x.must(15), pair[1]);
             due("must: the first period's stays", x.must(7), HARD);
         }
         TreeDesk back = period(10007);
-        secondPeriod(back, 50000, 20007);
+        secondPeriod(back, HARD, 50000, 20007);
         due("must: a period that goes back in time", back.must(15), 0x2007FFFFL);
     }
 
@@ -203,6 +208,16 @@ public final class PromisesTest {
             int n = Math.min(11, i + 1);
             due("median: rising, of block " + i, y.median(i), 1000 + 700L * (i - (n - 1) + n / 2));
         }
+        due("median: a late one", y.add(14, 90000, EASY), 15);
+        due("median: of eleven, one late", y.median(15), y.look(10, 2));
+        for (int i = 16; i <= 25; i++) {
+            long bits = y.must(i - 1);
+            due("median: behind the late one", y.add(i - 1, 20000 + i, bits), i);
+        }
+        due("median: the late one is the last of eleven", y.median(25), 20021);
+        due("median: one more", y.add(25, 20026, y.must(25)), 26);
+        due("median: the late one is out", y.median(26), 20021);
+        due("median: the late one among earlier ones", y.median(22), 20018);
         TreeDesk z = chain(300, 1000, 9000, 9001, 9500, 9400, 9300);
         due("median: mixed, of four", z.median(3), 9001);
         due("median: mixed, of five", z.median(4), 9001);
@@ -255,6 +270,16 @@ public final class PromisesTest {
             due("work: none " + none, x.work(none, 3), 0);
         }
         due("work: none", x.work(9, 3), 0);
+        TreeDesk full = chain(2, 1000, 1001);
+        due("work: no long 4 of the last block", full.work(1, 4), 0);
+        due("work: no long -1 of the root", full.work(0, -1), 0);
+        // A target of 2 ^ 253: its 2 ^ 256 / (target + 1) is just below 8.
+        TreeDesk exact = period(11348);
+        secondPeriod(exact, 0x2023F258L, 20000, 24273);
+        due("must: a power of 2", exact.must(15), 0x20200000L);
+        due("work: before it", exact.work(15, 3), 8 * 2 + 8 * 7);
+        due("add: a power of 2", exact.add(15, 24274, 0x20200000L), 16);
+        due("work: of a power of 2", exact.work(16, 3), 8 * 2 + 8 * 7 + 7);
         // A quarter of the target each period: the sums go over 64 bits.
         TreeDesk deep = new TreeDesk(300, 0);
         for (int i = 1; i < 300; i++) {
