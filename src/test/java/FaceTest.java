@@ -41,6 +41,15 @@ public final class FaceTest {
         }
     }
 
+    /** What is static and can change would be shared by all objects. */
+    private static void statics(Class<?> type) {
+        for (Field field : type.getDeclaredFields()) {
+            int modifiers = field.getModifiers();
+            boolean shared = Modifier.isStatic(modifiers) && !(Modifier.isFinal(modifiers) && field.getType().isPrimitive());
+            Check.due("a shared field " + type.getName() + "." + field.getName(), shared ? 1 : 0, 0);
+        }
+    }
+
     public static void main(String[] args) {
         int modifiers = TreeDesk.class.getModifiers();
         Check.due("public final class", Modifier.isPublic(modifiers) && Modifier.isFinal(modifiers) ? 1 : 0, 1);
@@ -56,7 +65,9 @@ public final class FaceTest {
         for (Class<?> inside : TreeDesk.class.getDeclaredClasses()) {
             boolean hidden = !Modifier.isPublic(inside.getModifiers()) && !Modifier.isProtected(inside.getModifiers());
             Check.due("hidden class " + inside.getName(), hidden ? 1 : 0, 1);
+            statics(inside);
         }
+        statics(TreeDesk.class);
         Check.end();
     }
 }

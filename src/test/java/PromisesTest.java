@@ -1,67 +1,12 @@
 /** Each promise by hand: ordinary inputs, the edges that the document names, and wrong inputs. */
 public final class PromisesTest {
-    private static final long EASY = 0x207FFFFFL;
-    private static final long HARD = 0x201FFFFFL;
-    /** The bits of the first periods, if each is as short as can be. */
-    private static final long[] HARDER = {
-        0x207FFFFFL, 0x201FFFFFL, 0x2007FFFFL, 0x2001FFFFL, 0x1F7FFFC0L, 0x1F1FFFF0L, 0x1F07FFFCL, 0x1F01FFFFL,
-        0x1E7FFFC0L, 0x1E1FFFF0L, 0x1E07FFFCL, 0x1E01FFFFL, 0x1D7FFFC0L, 0x1D1FFFF0L, 0x1D07FFFCL, 0x1D01FFFFL,
-        0x1C7FFFC0L, 0x1C1FFFF0L, 0x1C07FFFCL, 0x1C01FFFFL, 0x1B7FFFC0L, 0x1B1FFFF0L, 0x1B07FFFCL, 0x1B01FFFFL,
-        0x1A7FFFC0L, 0x1A1FFFF0L, 0x1A07FFFCL, 0x1A01FFFFL, 0x197FFFC0L, 0x191FFFF0L, 0x1907FFFCL, 0x1901FFFFL,
-        0x187FFFC0L, 0x181FFFF0L, 0x1807FFFCL, 0x1801FFFFL, 0x177FFFC0L, 0x171FFFF0L};
-    private static final long MOST = (1L << 32) - 1;
-    private static final int[] NO_BLOCKS = {-1, -2, 300, Integer.MIN_VALUE, Integer.MAX_VALUE};
+    private static final long EASY = Trees.EASY;
+    private static final long HARD = Trees.HARD;
+    private static final long MOST = Trees.MOST;
+    private static final int[] NO_BLOCKS = Trees.NO_BLOCKS;
 
     private static void due(String call, long got, long want) {
         Check.due(call, got, want);
-    }
-
-    /** Blocks 1 .. n, each the child of the one before, all with the limit's bits: n is at most 7. */
-    private static TreeDesk chain(int room, int rootTime, long... times) {
-        TreeDesk x = new TreeDesk(room, rootTime);
-        for (int i = 0; i < times.length; i++) {
-            due("add of a chain's block " + (i + 1), x.add(i, times[i], EASY), i + 1);
-        }
-        return x;
-    }
-
-    /** Blocks 1 .. 7 above a root of time 10000, the seventh with a time of its own. */
-    private static TreeDesk period(long lastTime) {
-        return chain(300, 10000, 10001, 10002, 10003, 10004, 10005, 10006, lastTime);
-    }
-
-    /** Blocks 8 .. 15 above a first period; 9 .. 14 one second apart. */
-    private static void secondPeriod(TreeDesk x, long bits, long firstTime, long lastTime) {
-        due("add(7)", x.add(7, firstTime, bits), 8);
-        for (int i = 9; i < 15; i++) {
-            due("add of a second period's block " + i, x.add(i - 1, 20000 + i - 8, bits), i);
-        }
-        due("add(14)", x.add(14, lastTime, bits), 15);
-    }
-
-    /** Blocks 1 .. n so far apart that their bits stay the limit's. */
-    private static TreeDesk slowChain(int n) {
-        TreeDesk x = new TreeDesk(300, 1000);
-        for (int i = 1; i <= n; i++) {
-            due("add of a slow chain's block " + i, x.add(i - 1, 1000 + 700L * i, EASY), i);
-        }
-        return x;
-    }
-
-    /** A chain of nine whose last one, 8, has hard bits. */
-    private static TreeDesk hardTop() {
-        TreeDesk x = period(10007);
-        due("add(7) of hard bits", x.add(7, 10008, HARD), 8);
-        return x;
-    }
-
-    /** 0 - 1 - 2 - 3, 1 - 4 - 5 and 0 - 6. */
-    private static TreeDesk branches() {
-        TreeDesk x = chain(300, 1000, 1001, 1002, 1003);
-        due("add(1)", x.add(1, 1004, EASY), 4);
-        due("add(4)", x.add(4, 1005, EASY), 5);
-        due("add(0)", x.add(0, 1006, EASY), 6);
-        return x;
     }
 
     private static void room(int asked, int due) {
@@ -99,7 +44,7 @@ public final class PromisesTest {
     }
 
     private static void add() {
-        TreeDesk x = chain(4, 1000, 1001, 1002);
+        TreeDesk x = Trees.chain(4, 1000, 1001, 1002);
         for (int none : NO_BLOCKS) {
             due("add: no parent " + none, x.add(none, -1, -1), -1);
         }
@@ -128,14 +73,14 @@ public final class PromisesTest {
         due("add: no room left size()", x.size(), 4);
         due("add: no room left no child", x.look(0, 5), 2);
         due("add: nothing is above the most time", new TreeDesk(5, -1).add(0, MOST, EASY), -4);
-        TreeDesk back = chain(9, 1000, 5000, 6000);
+        TreeDesk back = Trees.chain(9, 1000, 5000, 6000);
         due("add: before the parent's time, as the median", back.add(2, 5000, EASY), -4);
         due("add: before the parent's time, above the median", back.add(2, 5001, EASY), 3);
         due("add: two with all alike", back.add(2, 5001, EASY), 4);
     }
 
     private static void spoil() {
-        TreeDesk x = chain(20, 1000, 1001, 1002, 1003, 1004);
+        TreeDesk x = Trees.chain(20, 1000, 1001, 1002, 1003, 1004);
         due("add(2)", x.add(2, 2000, EASY), 5);
         due("add(5)", x.add(5, 2001, EASY), 6);
         due("add(1)", x.add(1, 2002, EASY), 7);
@@ -162,7 +107,7 @@ public final class PromisesTest {
         due("all but the root bad: tip()", x.tip(), 0);
         due("a new start", x.add(0, 1001, EASY), 8);
         due("a new start: tip()", x.tip(), 8);
-        TreeDesk full = chain(3, 1000, 1001, 1002);
+        TreeDesk full = Trees.chain(3, 1000, 1001, 1002);
         due("full: spoil(2)", full.spoil(2), 1);
         due("full: tip()", full.tip(), 1);
         due("full: spoil(1)", full.spoil(1), 1);
@@ -170,7 +115,7 @@ public final class PromisesTest {
     }
 
     private static void must() {
-        TreeDesk young = chain(10, 1000, 1001, 1002, 1003, 1004, 1005, 1006);
+        TreeDesk young = Trees.chain(10, 1000, 1001, 1002, 1003, 1004, 1005, 1006);
         for (int i = 0; i <= 6; i++) {
             due("must(" + i + ")", young.must(i), EASY);
         }
@@ -183,26 +128,26 @@ public final class PromisesTest {
             {11210, 0x20204444L}, {12400, 0x203FFFFFL}, {13600, 0x205FFFFFL}, {14799, 0x207FF92BL},
             {14800, EASY}, {14801, EASY}, {29200, EASY}, {MOST, EASY}};
         for (long[] pair : firsts) {
-            due("must: a first period up to " + pair[0], period(pair[0]).must(7), pair[1]);
+            due("must: a first period up to " + pair[0], Trees.period(pair[0]).must(7), pair[1]);
         }
         long[][] seconds = {
             {1199, 0x2007FFFFL}, {1200, 0x2007FFFFL}, {1201, 0x200801B4L}, {2400, 0x200FFFFFL},
             {4799, 0x201FFE4AL}, {4800, HARD}, {4801, 0x202001B3L}, {9600, 0x203FFFFEL},
             {19199, 0x207FFE47L}, {19200, 0x207FFFFCL}, {19201, 0x207FFFFCL}, {MOST - 20000, 0x207FFFFCL}};
         for (long[] pair : seconds) {
-            TreeDesk x = period(10007);
-            secondPeriod(x, HARD, 20000, 20000 + pair[0]);
+            TreeDesk x = Trees.period(10007);
+            Trees.secondPeriod(x, HARD, 20000, 20000 + pair[0]);
             due("must(14) in a second period", x.must(14), HARD);
             due("must: a second period of " + pair[0], x.must(15), pair[1]);
             due("must: the first period's stays", x.must(7), HARD);
         }
-        TreeDesk back = period(10007);
-        secondPeriod(back, HARD, 50000, 20007);
+        TreeDesk back = Trees.period(10007);
+        Trees.secondPeriod(back, HARD, 50000, 20007);
         due("must: a period that goes back in time", back.must(15), 0x2007FFFFL);
     }
 
     private static void median() {
-        TreeDesk y = slowChain(14);
+        TreeDesk y = Trees.slowChain(14);
         for (int i = 0; i <= 14; i++) {
             // Rising times: of n = i + 1, at most 11, number n / 2 from the earliest one on.
             int n = Math.min(11, i + 1);
@@ -218,7 +163,7 @@ public final class PromisesTest {
         due("median: one more", y.add(25, 20026, y.must(25)), 26);
         due("median: the late one is out", y.median(26), 20021);
         due("median: the late one among earlier ones", y.median(22), 20018);
-        TreeDesk z = chain(300, 1000, 9000, 9001, 9500, 9400, 9300);
+        TreeDesk z = Trees.chain(300, 1000, 9000, 9001, 9500, 9400, 9300);
         due("median: mixed, of four", z.median(3), 9001);
         due("median: mixed, of five", z.median(4), 9001);
         due("median: mixed, of six", z.median(5), 9300);
@@ -230,7 +175,7 @@ public final class PromisesTest {
     }
 
     private static void look() {
-        TreeDesk x = chain(300, 1000, 1001, 1002);
+        TreeDesk x = Trees.chain(300, 1000, 1001, 1002);
         due("add(1)", x.add(1, 1003, EASY), 3);
         long[][] blocks = {{-1, 0, 1000, EASY, 0, 1}, {0, 1, 1001, EASY, 0, 2}, {1, 2, 1002, EASY, 0, 0}, {1, 2, 1003, EASY, 0, 0}};
         for (int i = 0; i < blocks.length; i++) {
@@ -250,12 +195,12 @@ public final class PromisesTest {
         x.spoil(3);
         due("look: bad", x.look(3, 4), 1);
         due("look: a bad child is a child", x.look(1, 5), 2);
-        TreeDesk hard = hardTop();
+        TreeDesk hard = Trees.hardTop();
         due("look: hard bits", hard.look(8, 3), HARD);
     }
 
     private static void work() {
-        TreeDesk x = hardTop();
+        TreeDesk x = Trees.hardTop();
         for (int i = 0; i < 8; i++) {
             due("work(" + i + ", 3)", x.work(i, 3), 2 * i + 2);
         }
@@ -270,21 +215,18 @@ public final class PromisesTest {
             due("work: none " + none, x.work(none, 3), 0);
         }
         due("work: none", x.work(9, 3), 0);
-        TreeDesk full = chain(2, 1000, 1001);
+        TreeDesk full = Trees.chain(2, 1000, 1001);
         due("work: no long 4 of the last block", full.work(1, 4), 0);
         due("work: no long -1 of the root", full.work(0, -1), 0);
         // A target of 2 ^ 253: its 2 ^ 256 / (target + 1) is just below 8.
-        TreeDesk exact = period(11348);
-        secondPeriod(exact, 0x2023F258L, 20000, 24273);
+        TreeDesk exact = Trees.period(11348);
+        Trees.secondPeriod(exact, 0x2023F258L, 20000, 24273);
         due("must: a power of 2", exact.must(15), 0x20200000L);
         due("work: before it", exact.work(15, 3), 8 * 2 + 8 * 7);
         due("add: a power of 2", exact.add(15, 24274, 0x20200000L), 16);
         due("work: of a power of 2", exact.work(16, 3), 8 * 2 + 8 * 7 + 7);
         // A quarter of the target each period: the sums go over 64 bits.
-        TreeDesk deep = new TreeDesk(300, 0);
-        for (int i = 1; i < 300; i++) {
-            due("add of a deep block " + i, deep.add(i - 1, i, HARDER[i / 8]), i);
-        }
+        TreeDesk deep = Trees.deep();
         long[][] sums = {
             {243, 0, Long.parseUnsignedLong("15372404010226380784")}, {244, 0, Long.parseUnsignedLong("17678264611760337904")},
             {245, 1, 1537381139584743408L}, {256, 7, 6149946774025289712L}, {299, 13653, 8070465192514814784L}};
@@ -301,7 +243,7 @@ public final class PromisesTest {
     }
 
     private static void compareAndTip() {
-        TreeDesk x = hardTop();
+        TreeDesk x = Trees.hardTop();
         due("tip: the hard one", x.tip(), 8);
         int at = 0;
         for (int i = 1; i <= 11; i++) {
@@ -351,7 +293,7 @@ public final class PromisesTest {
     }
 
     private static void below() {
-        TreeDesk x = branches();
+        TreeDesk x = Trees.branches();
         int[][] due = {{0}, {0, 1}, {0, 1, 2}, {0, 1, 2, 3}, {0, 1, 4}, {0, 1, 4, 5}, {0, 6}};
         for (int block = 0; block < due.length; block++) {
             for (int height = 0; height < due[block].length; height++) {
@@ -369,7 +311,7 @@ public final class PromisesTest {
     }
 
     private static void fork() {
-        TreeDesk x = branches();
+        TreeDesk x = Trees.branches();
         int[][] due = {
             {0, 0, 0, 0, 0, 0, 0}, {0, 1, 1, 1, 1, 1, 0}, {0, 1, 2, 2, 1, 1, 0}, {0, 1, 2, 3, 1, 1, 0},
             {0, 1, 1, 1, 4, 4, 0}, {0, 1, 1, 1, 4, 5, 0}, {0, 0, 0, 0, 0, 0, 6}};
@@ -389,7 +331,7 @@ public final class PromisesTest {
     }
 
     private static void row() {
-        TreeDesk x = slowChain(41);
+        TreeDesk x = Trees.slowChain(41);
         int[][] due = {
             {0}, {1, 0}, {2, 1, 0}, {9, 8, 7, 6, 5, 4, 3, 2, 1, 0}, {10, 9, 8, 7, 6, 5, 4, 3, 2, 1, 0},
             {11, 10, 9, 8, 7, 6, 5, 4, 3, 2, 0}, {12, 11, 10, 9, 8, 7, 6, 5, 4, 3, 1, 0},
