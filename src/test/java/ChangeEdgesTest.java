@@ -137,6 +137,7 @@ public final class ChangeEdgesTest {
     private static void bitsOfPeriods() {
         Check.sentence("promise 2: -3, where the bits change: at a height that is a multiple of 8");
         refusedAdd("height 7, bits too early", () -> Trees.chain(300, 0, 1, 2, 3, 4, 5, 6), -3, 6, 7, HARD);
+        refusedAdd("height 7, bits that height 8 must have", () -> Trees.period(10007), -3, 6, 10008, HARD);
         refusedAdd("height 8, bits of before", () -> Trees.period(10007), -3, 7, 10008, EASY);
         refusedAdd("height 8, one less", () -> Trees.period(10007), -3, 7, 10008, HARD - 1);
         refusedAdd("height 8, one more", () -> Trees.period(10007), -3, 7, 10008, HARD + 1);
